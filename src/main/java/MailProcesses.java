@@ -249,10 +249,8 @@ public final class MailProcesses {
     }
 
     public int told(int k) {
-        if (!isBelow(k, TOLD_KEPT) || k >= toldCount) {
-            return 0;
-        }
-        return toldInts[toldPlace(toldCount - 1 - k)];
+        // Where nothing was told yet, there is the 0 that is due.
+        return isBelow(k, TOLD_KEPT) ? toldInts[toldPlace(toldCount - 1 - k)] : 0;
     }
 
     public int count(int what) {
@@ -384,7 +382,7 @@ public final class MailProcesses {
         return p;
     }
 
-    /** Answers whether the message came into the mailbox. */
+    /** Who is to end gets no message, and since it is not counted as lost either, that is looked at first. */
     private boolean deliver(int p, int tag, int v) {
         if (isToEnd[p]) {
             return false;
@@ -471,7 +469,7 @@ public final class MailProcesses {
         endings++;
     }
 
-    /** Answers the process whose turn it is; NONE if there is no turn. */
+    /** NONE if there is no turn. */
     private int startTurn() {
         wakeSleepers();
         int first = ready(0);
@@ -535,7 +533,7 @@ public final class MailProcesses {
         goToBack(p);
     }
 
-    /** The instructions that touch no other process. */
+    /** The instructions that touch no other process: apart from the others so that both methods stay short. */
     private void doAlone(int p, int op, int a, int b) {
         int base = p * REGISTERS;
         switch (op) {
@@ -581,7 +579,7 @@ public final class MailProcesses {
         }
     }
 
-    /** The instructions that touch another process. */
+    /** The instructions that may touch another process; what ends by them is marked, and ended behind them. */
     private void doWithOthers(int p, int op, int a, int b) {
         int base = p * REGISTERS;
         switch (op) {

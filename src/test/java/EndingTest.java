@@ -8,6 +8,7 @@ public final class EndingTest {
         normalEndSpreadsNothing(checks);
         nineSpreadsAsNine(checks);
         endingsInTheirOrder(checks);
+        theLeastAndTheGreatestNumber(checks);
         whoIsToEndGetsNothing(checks);
         whoIsToEndLosesNothing(checks);
         theRunningOneIsEnded(checks);
@@ -51,13 +52,13 @@ public final class EndingTest {
         checks.due("process(2, 5)", x.process(2, 5), 0);
         checks.mail("linked", x, 0, 6, 25);
         checks.mail("linked and monitoring: the signal first", x, 2, 6, 25, 7, 25);
-        x.exit(0, 9);
-        checks.due("its monitor on 0 is no more: state(1)", x.state(1), 3);
-        x.spawn(0, 0);
-        x.spawn(0, 0);
+        checks.due("spawn(0, 0)", x.spawn(0, 0), 1);
         checks.due("a new one with its number is not linked: process(1, 4)", x.process(1, 4), 0);
+        checks.due("nor does it monitor: process(1, 5)", x.process(1, 5), 0);
+        x.exit(0, 9);
+        checks.due("the monitor on 0 is no more: process(1, 3)", x.process(1, 3), 0);
         x.exit(1, 9);
-        checks.due("nor monitored: process(2, 3)", x.process(2, 3), 2);
+        checks.due("nor is it monitored: process(2, 3)", x.process(2, 3), 2);
     }
 
     private static void signalsThenMessages(Checks checks) {
@@ -134,6 +135,22 @@ public final class EndingTest {
         checks.states("all but the watcher", x, 3, 3, 3, 3, 3, 2);
         checks.mail("the order", x, 5, 7, 48, 7, 49, 7, 52, 7, 50, 7, 51);
         checks.due("count(5)", x.count(5), 5);
+    }
+
+    private static void theLeastAndTheGreatestNumber(Checks checks) {
+        MailProcesses x = new MailProcesses();
+        Programs.module(x, 0, "RECEIVE 1 4", "MONITOR 0", "LINK 0", "TRAP 0 1", "RECEIVE 0 4");
+        for (int p = 0; p < 8; p++) {
+            x.spawn(0, 0);
+        }
+        x.run(8);
+        x.send(0, 0, 3);
+        x.send(7, 0, 3);
+        x.run(2);
+        checks.due("process(3, 4)", x.process(3, 4), 129);
+        x.exit(3, 2);
+        checks.mail("0", x, 0, 6, 19, 7, 19);
+        checks.mail("7", x, 7, 6, 19, 7, 19);
     }
 
     /** 0 is linked with 1 and 2, 1 with 2: 2 is to end with 6 by 0, and 1's ending adds nothing. */

@@ -4,6 +4,7 @@ public final class PurgeTest {
         Checks checks = new Checks();
         wrongInputs(checks);
         onlyTheOldVersion(checks);
+        eachModuleForItself(checks);
         byNumbersWithWhatComes(checks);
         trappingOnesEndToo(checks);
         checks.end();
@@ -42,6 +43,21 @@ public final class PurgeTest {
         checks.due("purge(0) again", x.purge(0), 0);
         Programs.draft(x, "TELL 0");
         checks.due("load(0) is free then", x.load(0), true);
+    }
+
+    private static void eachModuleForItself(Checks checks) {
+        MailProcesses x = new MailProcesses();
+        for (int m = 0; m < 4; m++) {
+            Programs.module(x, m, "RECEIVE 0 4");
+            x.spawn(m, 0);
+            Programs.module(x, m, "TELL 0");
+        }
+        int[] order = {3, 1, 0, 2};
+        for (int i = 0; i < 4; i++) {
+            checks.due("purge(" + order[i] + ")", x.purge(order[i]), 1);
+            checks.due("state(" + order[i] + ")", x.state(order[i]), 3);
+            checks.due("count(5)", x.count(5), i + 1);
+        }
     }
 
     private static void byNumbersWithWhatComes(Checks checks) {

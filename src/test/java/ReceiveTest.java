@@ -3,6 +3,7 @@ public final class ReceiveTest {
     public static void main(String[] args) {
         Checks checks = new Checks();
         takesTheFirstWithATag(checks);
+        theOthersKeepTheirOrder(checks);
         noLimitAtAll(checks);
         limitNotAboveZero(checks);
         limitIsCountedFromBehind(checks);
@@ -26,6 +27,30 @@ public final class ReceiveTest {
         checks.due("run(9)", x.run(9), 2);
         checks.told("by the order in which they came", x, 20, 2, 10, 1, 30, 3);
         checks.due("state(0)", x.state(0), 3);
+    }
+
+    /** A full mailbox, taken from its front, its middle and its back. */
+    private static void theOthersKeepTheirOrder(Checks checks) {
+        int[] taken = {0, 5, 10, 11};
+        for (int k : taken) {
+            MailProcesses x = new MailProcesses();
+            Programs.module(x, 0, "RECEIVE 2 4", "RECEIVE 0 4");
+            x.spawn(0, 0);
+            x.spawn(0, 0);
+            x.send(1, 3, 1000);
+            for (int i = 0; i < 12; i++) {
+                x.send(0, i == k ? 1 : 2 + i % 4, i);
+            }
+            x.run(1);
+            checks.due("register(0, 0)", x.register(0, 0), k);
+            checks.due("process(0, 3)", x.process(0, 3), 11);
+            for (int i = 0; i < 11; i++) {
+                int was = i < k ? i : i + 1;
+                checks.due(k + " taken: message(0, " + i + ", 0)", x.message(0, i, 0), 2 + was % 4);
+                checks.due(k + " taken: message(0, " + i + ", 1)", x.message(0, i, 1), was);
+            }
+            checks.mail("the next mailbox", x, 1, 3, 1000);
+        }
     }
 
     private static void noLimitAtAll(Checks checks) {

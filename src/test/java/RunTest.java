@@ -9,6 +9,7 @@ public final class RunTest {
         backBehindThoseItMadeOrWoke(checks);
         timeLeapsToTheLeastEnd(checks);
         wokenByEndsThenNumbers(checks);
+        allEightAtOnce(checks);
         noTurnChangesNothing(checks);
         wokenBehindWhatIsReady(checks);
         checks.end();
@@ -118,6 +119,18 @@ public final class RunTest {
         checks.queue("none is woken behind a turn", x, 5);
         x.run(1);
         checks.queue("6, 8, then the three with 10 by numbers", x, 4, 2, 0, 1, 3, 5);
+    }
+
+    private static void allEightAtOnce(Checks checks) {
+        MailProcesses x = new MailProcesses();
+        Programs.module(x, 0, "RECEIVE 0 0", "JUMP 1");
+        for (int p = 0; p < 8; p++) {
+            x.spawn(0, 100 - p);
+        }
+        x.run(8);
+        x.run(1);
+        checks.due("count(0)", x.count(0), 101 + 8);
+        checks.queue("by numbers, and the first one has had its turn", x, 1, 2, 3, 4, 5, 6, 7, 0);
     }
 
     private static void noTurnChangesNothing(Checks checks) {

@@ -167,7 +167,7 @@ public final class SignalTest {
     private static void unlink(Checks checks) {
         MailProcesses x = new MailProcesses();
         Programs.module(x, 0, "RECEIVE 0 4");
-        Programs.module(x, 1, "LINK 0", "SET 1 1", "LINK 1", "RECEIVE 1 4", "UNLINK 0", "JUMP 3");
+        Programs.module(x, 1, "LINK 0", "SET 1 1", "LINK 1", "RECEIVE 1 4", "MOVE 3 0", "SET 0 1", "UNLINK 3", "JUMP 3");
         x.spawn(0, 0);
         x.spawn(0, 0);
         x.spawn(1, 0);
@@ -179,6 +179,7 @@ public final class SignalTest {
             x.run(1);
         }
         checks.due("process(2, 4)", x.process(2, 4), 2);
+        checks.due("none was monitored for that: process(2, 3)", x.process(2, 3), 0);
         checks.due("process(0, 4)", x.process(0, 4), 0);
         checks.due("process(1, 4)", x.process(1, 4), 4);
         x.exit(0, 4);
