@@ -1,13 +1,34 @@
-/** Compares answers with those that are due, and tells every one that is not. */
+import java.util.List;
+
+/** Compares answers with those that are due, and tells every one that is not, with the sentence that asks for it. */
 final class Checks {
     private int asked;
     private int wrong;
+    private int sentences;
+    private String sentence = "";
+    private int askedBeforeTheSentence;
+
+    /** The sentence of the document, in its own words, that all answers up to the next one are held against. */
+    void says(String words) {
+        closeSentence();
+        sentence = words;
+        sentences++;
+        askedBeforeTheSentence = asked;
+    }
+
+    private void closeSentence() {
+        if (sentences > 0 && asked == askedBeforeTheSentence) {
+            wrong++;
+            System.out.println("\"" + sentence + "\": nothing was asked");
+        }
+    }
 
     void due(String call, long got, long want) {
         asked++;
         if (got != want) {
             wrong++;
-            System.out.println(call + " answered " + got + ", due is " + want);
+            String from = sentences == 0 ? "" : "\"" + sentence + "\": ";
+            System.out.println(from + call + " answered " + got + ", due is " + want);
         }
     }
 
@@ -15,7 +36,7 @@ final class Checks {
         due(call, got ? 1 : 0, want ? 1 : 0);
     }
 
-    /** Every process that is looked at: state, place, messages; one line of the table that a test reads at once. */
+    /** The states of the processes 0, 1 and so on. */
     void states(String where, MailProcesses x, int... want) {
         for (int p = 0; p < want.length; p++) {
             due(where + ": state(" + p + ")", x.state(p), want[p]);
@@ -49,8 +70,32 @@ final class Checks {
         due(where + ": message(" + p + ", " + count + ", 0)", x.message(p, count, 0), 10000000000L);
     }
 
+    void registers(String where, MailProcesses x, int p, int... want) {
+        for (int r = 0; r < want.length; r++) {
+            due(where + ": register(" + p + ", " + r + ")", x.register(p, r), want[r]);
+        }
+    }
+
+    /** process(p, 0), process(p, 1) and so on. */
+    void whats(String where, MailProcesses x, int p, int... want) {
+        for (int what = 0; what < want.length; what++) {
+            due(where + ": process(" + p + ", " + what + ")", x.process(p, what), want[what]);
+        }
+    }
+
+    /** Everything that can be read is as Snapshot.of had it. */
+    void unchanged(String where, MailProcesses x, List<String> before) {
+        List<String> after = Snapshot.of(x);
+        for (int i = 0; i < Math.min(before.size(), after.size()); i++) {
+            due(where + ": what was " + before.get(i) + " is " + after.get(i), before.get(i).equals(after.get(i)), true);
+        }
+        due(where + ": how much can be read", after.size(), before.size());
+    }
+
     void end() {
-        System.out.println(wrong == 0 ? asked + " answers are as due" : wrong + " of " + asked + " answers are not as due");
+        closeSentence();
+        String on = sentences == 0 ? "" : " on " + sentences + " sentences";
+        System.out.println(wrong == 0 ? asked + " answers" + on + " are as due" : wrong + " of " + asked + " answers are not as due");
         if (wrong != 0) {
             System.exit(1);
         }
