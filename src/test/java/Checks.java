@@ -8,7 +8,7 @@ final class Checks {
     private String sentence = "";
     private int askedBeforeTheSentence;
 
-    /** The sentence of the document, in its own words, that all answers up to the next one are held against. */
+    /** The sentence of the document, or one case of it, that all answers up to the next one are held against. */
     void says(String words) {
         closeSentence();
         sentence = words;

@@ -33,46 +33,51 @@ public final class InstructionTest {
         return x;
     }
 
+    /** The rows are done once each, one after the other, and leave these registers. */
+    private static void leaves(Checks checks, String where, MailProcesses x, int rows, int... registers) {
+        checks.registers(where, x, 0, registers);
+        checks.due(where + ": each goes to the next one: count(0)", x.count(0), rows);
+        checks.due(where + ": state(0)", x.state(0), 3);
+    }
+
     private static void set(Checks checks) {
         checks.says("0 SET Ra to b");
-        for (int r = 0; r < 4; r++) {
-            for (int b : new int[] {LEAST, -1, 0, MOST}) {
-                MailProcesses x = done(5, "SET " + r + " " + b);
-                for (int other = 0; other < 4; other++) {
-                    int was = other == 0 ? 5 : 0;
-                    checks.due("SET " + r + " " + b + ": register(0, " + other + ")", x.register(0, other), other == r ? b : was);
-                }
-            }
+        for (int b : new int[] {LEAST, -1, 0, MOST}) {
+            leaves(checks, "SET 0 " + b, done(5, "SET 0 " + b), 1, b, 0, 0, 0);
+            leaves(checks, "SET 1 " + b, done(5, "SET 1 " + b), 1, 5, b, 0, 0);
+            leaves(checks, "SET 2 " + b, done(5, "SET 2 " + b), 1, 5, 0, b, 0);
+            leaves(checks, "SET 3 " + b, done(5, "SET 3 " + b), 1, 5, 0, 0, b);
         }
     }
 
     private static void add(Checks checks) {
         checks.says("1 ADD Rb to Ra (all wrap)");
-        checks.registers("ordinary", done(40, "SET 3 2", "ADD 0 3"), 0, 42, 0, 0, 2);
-        checks.registers("above the greatest", done(MOST, "SET 1 1", "ADD 0 1"), 0, LEAST, 1, 0, 0);
-        checks.registers("below the least", done(LEAST, "SET 2 -1", "ADD 0 2"), 0, MOST, 0, -1, 0);
+        leaves(checks, "ordinary", done(40, "SET 3 2", "ADD 0 3"), 2, 42, 0, 0, 2);
+        leaves(checks, "above the greatest", done(MOST, "SET 1 1", "ADD 0 1"), 2, LEAST, 1, 0, 0);
+        leaves(checks, "below the least", done(LEAST, "SET 2 -1", "ADD 0 2"), 2, MOST, 0, -1, 0);
     }
 
     private static void sub(Checks checks) {
         checks.says("2 SUB Rb from Ra (all wrap)");
-        checks.registers("ordinary", done(40, "SET 3 2", "SUB 0 3"), 0, 38, 0, 0, 2);
-        checks.registers("below the least", done(LEAST, "SET 1 1", "SUB 0 1"), 0, MOST, 1, 0, 0);
-        checks.registers("above the greatest", done(MOST, "SET 2 -1", "SUB 0 2"), 0, LEAST, 0, -1, 0);
-        checks.registers("0 - least", done(0, "SET 2 " + LEAST, "SUB 0 2"), 0, LEAST, 0, LEAST, 0);
+        leaves(checks, "ordinary", done(40, "SET 3 2", "SUB 0 3"), 2, 38, 0, 0, 2);
+        leaves(checks, "below the least", done(LEAST, "SET 1 1", "SUB 0 1"), 2, MOST, 1, 0, 0);
+        leaves(checks, "above the greatest", done(MOST, "SET 2 -1", "SUB 0 2"), 2, LEAST, 0, -1, 0);
+        leaves(checks, "0 - least", done(0, "SET 2 " + LEAST, "SUB 0 2"), 2, LEAST, 0, LEAST, 0);
     }
 
     private static void move(Checks checks) {
         checks.says("3 MOVE Rb to Ra");
-        checks.registers("MOVE 2 0", done(LEAST, "SET 2 3", "MOVE 2 0"), 0, LEAST, 0, LEAST, 0);
-        checks.registers("MOVE 0 3", done(1, "SET 3 3", "MOVE 0 3"), 0, 3, 0, 0, 3);
+        leaves(checks, "MOVE 2 0", done(LEAST, "SET 2 3", "MOVE 2 0"), 2, LEAST, 0, LEAST, 0);
+        leaves(checks, "MOVE 0 3", done(1, "SET 3 3", "MOVE 0 3"), 2, 3, 0, 0, 3);
+        leaves(checks, "MOVE 3 1", done(1, "SET 1 8", "MOVE 3 1"), 2, 1, 8, 0, 8);
     }
 
     private static void sameRegisterTwice(Checks checks) {
         checks.says("Ra, Rb are the registers a and b, also where that is one");
-        checks.registers("ADD 0 0", done(21, "ADD 0 0"), 0, 42, 0, 0, 0);
-        checks.registers("ADD 0 0 wraps", done(MOST, "ADD 0 0"), 0, -2, 0, 0, 0);
-        checks.registers("SUB 0 0", done(21, "SUB 0 0"), 0, 0, 0, 0, 0);
-        checks.registers("MOVE 0 0", done(21, "MOVE 0 0"), 0, 21, 0, 0, 0);
+        leaves(checks, "ADD 0 0", done(21, "ADD 0 0"), 1, 42, 0, 0, 0);
+        leaves(checks, "ADD 0 0 wraps", done(MOST, "ADD 0 0"), 1, -2, 0, 0, 0);
+        leaves(checks, "SUB 0 0", done(21, "SUB 0 0"), 1, 0, 0, 0, 0);
+        leaves(checks, "MOVE 0 0", done(21, "MOVE 0 0"), 1, 21, 0, 0, 0);
     }
 
     private static void jump(Checks checks) {

@@ -81,7 +81,7 @@ public final class RunTest {
         MailProcesses x = new MailProcesses();
         Programs.module(x, 0, "SET 0 1000", "RECEIVE 0 0", "JUMP 0");
         Programs.module(x, 1, "RECEIVE 0 0", "RECEIVE 0 4");
-        Programs.module(x, 2, "TELL 0", "RECEIVE 0 4");
+        Programs.module(x, 2, "TELL 0");
         x.spawn(0, 0);
         // The first turn takes 2, each one behind it 1000 and three instructions.
         x.run(1);
@@ -97,7 +97,7 @@ public final class RunTest {
         checks.due("count(0)", x.count(0), 1000000000);
         x.spawn(2, 5);
         checks.due("at the limit: run(1)", x.run(1), 1);
-        checks.due("count(0)", x.count(0), 1000000002);
+        checks.due("count(0)", x.count(0), 1000000001);
         x.spawn(2, 6);
         List<String> before = Snapshot.of(x);
         checks.due("above it: run(1)", x.run(1), -1);
